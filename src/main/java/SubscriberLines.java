@@ -51,11 +51,11 @@ public final class SubscriberLines {
     }
 
     public boolean dial(int subscriber, int user, int secret) {
-        return isSubscriber(subscriber) && subscribers[subscriber].begin(user, secret);
+        return isSubscriber(subscriber) && subscribers[subscriber].connect(user, secret);
     }
 
     public boolean hangup(int subscriber) {
-        return isSubscriber(subscriber) && subscribers[subscriber].end();
+        return isSubscriber(subscriber) && subscribers[subscriber].disconnect();
     }
 
     public boolean send(int subscriber, int source, int word) {
@@ -292,6 +292,7 @@ public final class SubscriberLines {
         abstract void runTimer();
     }
 
+    /** Joins, logs in and is on; link and address are 0 as long as it has none. */
     private static final class Subscriber extends Node {
         private static final int OFF = 0;
         private static final int JOINING = 1;
@@ -319,7 +320,7 @@ public final class SubscriberLines {
             this.flight = flight;
         }
 
-        boolean begin(int user, int secret) {
+        boolean connect(int user, int secret) {
             if (state != OFF) {
                 return false;
             }
@@ -331,7 +332,7 @@ public final class SubscriberLines {
             return true;
         }
 
-        boolean end() {
+        boolean disconnect() {
             if (state == OFF) {
                 return false;
             }
@@ -347,7 +348,6 @@ public final class SubscriberLines {
             return true;
         }
 
-        @Override
         void receive(Packet p) {
             if (p.kind == LINKED) {
                 becomeLinked(p.first);
@@ -356,7 +356,6 @@ public final class SubscriberLines {
             }
         }
 
-        @Override
         void runTimer() {
             if (state == ON) {
                 quiet++;
@@ -442,6 +441,7 @@ public final class SubscriberLines {
         }
     }
 
+    /** Stands between the subscribers and the server. */
     private static final class Access extends Node {
         private static final int IDLE_LIMIT = 10;
 
@@ -475,7 +475,6 @@ public final class SubscriberLines {
             return which == 1 ? sessions[subscriber] : 0;
         }
 
-        @Override
         void receive(Packet p) {
             if (p.kind >= OPEN) {
                 if (end.isNext(p)) {
@@ -491,7 +490,6 @@ public final class SubscriberLines {
             }
         }
 
-        @Override
         void runTimer() {
             if (end.breaksAtTimer()) {
                 for (int s = 0; s < SUBSCRIBERS; s++) {
@@ -579,6 +577,7 @@ public final class SubscriberLines {
         }
     }
 
+    /** One of the server's sessions; its address is 0 when it is WAITING. */
     private static final class Session {
         private static final int WAITING = 1;
         private static final int ACCEPTED = 2;
@@ -610,6 +609,7 @@ public final class SubscriberLines {
         }
     }
 
+    /** Has the sessions and the pool, and stands for the core as well. */
     private static final class Server extends Node {
         private static final int USERS = 4;
         private static final int MOST_SESSIONS = 4;
@@ -666,7 +666,6 @@ public final class SubscriberLines {
             return false;
         }
 
-        @Override
         void receive(Packet p) {
             if (p.kind < OPEN) {
                 receiveInSession(p);
@@ -682,7 +681,6 @@ public final class SubscriberLines {
             }
         }
 
-        @Override
         void runTimer() {
             int at = 0;
             for (int left = count; left > 0; left--) {
@@ -824,14 +822,14 @@ public final class SubscriberLines {
         }
     }
 
-    /** One end of the channel. */
+    /** One end of the channel: what it put and what it expects. */
     private static final class End {
         private static final int WINDOW = 3;
         private static final int FIRST_WAIT = 2;
         private static final int MOST_TRIES = 3;
-        // A power of two, and more than 512 calls can fill: a call brings at most 4 JOINs in 3 ticks, so
-        // all of them fewer than 700, and a JOIN leads to at most two messages at an end; beside these
-        // there are one OPEN, and HELLO when there is nothing else.
+        // A power of two, and more than 512 calls can fill: each JOIN is a dial, or a third run of the timer
+        // of one of four subscribers, so there are fewer than 700, and each leads to at most two messages at
+        // an end; beside these there is OPEN once, and HELLO only when no other message is there.
         private static final int ROOM = 2048;
 
         private final int me;

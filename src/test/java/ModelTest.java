@@ -2,8 +2,9 @@ import java.util.Random;
 
 /** Runs of 512 chosen calls: after each one the program has to answer everything as the model does. */
 public final class ModelTest {
-    private static final int RUNS = 1500;
+    private static final int RUNS = 1200;
     private static final int CALLS = 512;
+    private static final int PHASE = 128;
     private static final Check CHECK = new Check();
 
     public static void main(String[] args) {
@@ -18,11 +19,23 @@ public final class ModelTest {
         int pool = r.nextInt(7) - 1;
         SubscriberLines x = new SubscriberLines(pool);
         Model m = new Model(pool);
-        int[] weights = weights(run % 6);
         for (int call = 0; call < CALLS && CHECK.clean(); call++) {
             CHECK.begin("run " + run + ", call " + call);
-            step(x, m, r, weights);
+            boolean late = call % PHASE >= PHASE / 2;
+            step(x, m, r, weights(late ? run % 8 : 0));
+            if (late && run % 8 == 7) {
+                cutOneWay(x, m, 4 + run / 8 % 2);
+            }
             lookAtAll(x, m);
+        }
+    }
+
+    // One direction of the channel loses everything, so that an end that waits for it breaks.
+    private static void cutOneWay(SubscriberLines x, Model m, int to) {
+        for (int k = m.flight() - 1; k >= 0; k--) {
+            if (m.packet(k, 0) >= 12 && m.packet(k, 2) == to) {
+                same("drop", x.drop(k), m.drop(k));
+            }
         }
     }
 
@@ -34,7 +47,9 @@ public final class ModelTest {
             case 2: return new int[] {2, 30, 30, 2, 2, 0, 5, 5, 12};
             case 3: return new int[] {2, 10, 2, 30, 20, 0, 2, 5, 20};
             case 4: return new int[] {1, 5, 0, 3, 3, 0, 60, 5, 60};
-            default: return new int[] {1, 6, 2, 5, 5, 4, 4, 20, 60};
+            case 5: return new int[] {0, 6, 2, 50, 50, 0, 1, 4, 2};
+            case 6: return new int[] {1, 6, 2, 5, 5, 4, 4, 20, 60};
+            default: return new int[] {1, 10, 2, 10, 5, 0, 0, 2, 60};
         }
     }
 
