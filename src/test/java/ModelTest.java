@@ -1,11 +1,16 @@
 import java.util.Random;
 
-/** Runs of 512 chosen calls: after each one the program has to answer everything as the model does. */
+/** Runs of chosen calls: the program has to answer everything as the model does. */
 public final class ModelTest {
-    private static final int RUNS = 1200;
-    private static final int CALLS = 512;
+    private static final int RUNS = 1600;
     private static final int PHASE = 128;
+    private static final int[] LENGTHS = {480, 400, 300, 200};
+    private static final int LOOK_EVERY = 24;
+    private static final int PEEKS = 4;
     private static final Check CHECK = new Check();
+
+    private ModelTest() {
+    }
 
     public static void main(String[] args) {
         for (int run = 0; run < RUNS && CHECK.clean(); run++) {
@@ -17,22 +22,29 @@ public final class ModelTest {
     private static void compare(int run) {
         Random r = new Random(run);
         int pool = r.nextInt(7) - 1;
-        SubscriberLines x = new SubscriberLines(pool);
+        Tape x = new Tape(pool);
         Model m = new Model(pool);
-        for (int call = 0; call < CALLS && CHECK.clean(); call++) {
-            CHECK.begin("run " + run + ", call " + call);
+        int length = LENGTHS[run % LENGTHS.length];
+        for (int call = 0; x.acted() < length && CHECK.clean(); call++) {
+            CHECK.begin("run " + run + ", step " + call);
             boolean late = call % PHASE >= PHASE / 2;
-            step(x, m, r, weights(late ? run % 8 : 0));
-            if (late && run % 8 == 7) {
-                cutOneWay(x, m, 4 + run / 8 % 2);
+            step(x, m, r, weights(late ? run / 4 % 8 : 0));
+            if (late && run / 4 % 8 == 7) {
+                cutOneWay(x, m, 4 + run / 32 % 2, length);
             }
-            lookAtAll(x, m);
+            for (int i = 0; i < PEEKS; i++) {
+                peek(x, m, r);
+            }
+            if (call % LOOK_EVERY == LOOK_EVERY - 1) {
+                lookAtAll(x, m);
+            }
         }
+        lookAtAll(x, m);
     }
 
     // One direction of the channel loses everything, so that an end that waits for it breaks.
-    private static void cutOneWay(SubscriberLines x, Model m, int to) {
-        for (int k = m.flight() - 1; k >= 0; k--) {
+    private static void cutOneWay(Tape x, Model m, int to, int length) {
+        for (int k = m.flight() - 1; k >= 0 && x.acted() < length; k--) {
             if (m.packet(k, 0) >= 12 && m.packet(k, 2) == to) {
                 same("drop", x.drop(k), m.drop(k));
             }
@@ -67,7 +79,7 @@ public final class ModelTest {
         return i;
     }
 
-    private static void step(SubscriberLines x, Model m, Random r, int[] weights) {
+    private static void step(Tape x, Model m, Random r, int[] weights) {
         int s = r.nextInt(40) == 0 ? r.nextInt(8) - 2 : r.nextInt(4);
         int user = r.nextInt(30) == 0 ? r.nextInt(8) - 2 : r.nextInt(4);
         int secret = r.nextInt(20) == 0 ? r.nextInt() : 7;
@@ -88,7 +100,7 @@ public final class ModelTest {
         }
     }
 
-    private static void restart(SubscriberLines x, Model m, int node) {
+    private static void restart(Tape x, Model m, int node) {
         same("restart", x.restart(node), m.restart(node));
     }
 
@@ -96,7 +108,25 @@ public final class ModelTest {
         CHECK.same(what, got ? 1 : 0, want ? 1 : 0);
     }
 
-    private static void lookAtAll(SubscriberLines x, Model m) {
+    private static void peek(Tape x, Model m, Random r) {
+        int k = r.nextInt(8);
+        int which = r.nextInt(9);
+        int place = r.nextInt(m.flight() + 1);
+        switch (r.nextInt(10)) {
+            case 0: CHECK.same("flight()", x.flight(), m.flight()); break;
+            case 1: CHECK.same("state " + k, x.state(k), m.state(k)); break;
+            case 2: CHECK.same("address " + k, x.address(k), m.address(k)); break;
+            case 3: CHECK.same("heard " + k, x.heard(k, which - 2), m.heard(k, which - 2)); break;
+            case 4: CHECK.same("cored " + k, x.cored(which - 2), m.cored(which - 2)); break;
+            case 5: CHECK.same("circuit " + k, x.circuit(k, which % 2), m.circuit(k, which % 2)); break;
+            case 6: CHECK.same("session " + k, x.session(k, which % 6), m.session(k, which % 6)); break;
+            case 7: CHECK.same("channel 4", x.channel(4, k - 1), m.channel(4, k - 1)); break;
+            case 8: CHECK.same("channel 5", x.channel(5, k - 1), m.channel(5, k - 1)); break;
+            default: CHECK.same("packet " + place, x.packet(place, which), m.packet(place, which)); break;
+        }
+    }
+
+    private static void lookAtAll(Tape x, Model m) {
         CHECK.same("flight()", x.flight(), m.flight());
         for (int k = -1; k <= m.flight(); k++) {
             for (int which = -1; which <= 9; which++) {

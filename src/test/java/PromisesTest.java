@@ -28,35 +28,11 @@ public final class PromisesTest {
         CHECK.finish();
     }
 
-    // ---- the ways to often used states
-
-    private static void ticks(SubscriberLines x, int n) {
-        for (int i = 0; i < n; i++) {
-            x.tick();
-        }
-    }
-
-    /** Subscriber 0 with user 1 has an OPEN session 1 with address 1 and link 1 after ten ticks. */
-    private static SubscriberLines online(int pool) {
-        SubscriberLines x = new SubscriberLines(pool);
-        x.allow(1, 77);
-        x.dial(0, 1, 77);
-        ticks(x, 10);
-        return x;
-    }
-
-    private static void packetIs(SubscriberLines x, int k, int... fields) {
-        for (int which = 0; which < 9; which++) {
-            int want = which < fields.length ? fields[which] : 0;
-            CHECK.same("packet(" + k + ", " + which + ")", x.packet(k, which), want);
-        }
-    }
-
     // ---- promise 1
 
     private static void newObject() {
         CHECK.begin("1 a new object");
-        SubscriberLines x = new SubscriberLines(2);
+        Tape x = new Tape(2);
         CHECK.same("flight()", x.flight(), 0);
         for (int s = 0; s < 4; s++) {
             CHECK.same("state", x.state(s), 0);
@@ -72,9 +48,9 @@ public final class PromisesTest {
         CHECK.same("tick()", x.tick(), 0);
         CHECK.same("flight() after it", x.flight(), 0);
         for (int user = -1; user <= 4; user++) {
-            SubscriberLines y = new SubscriberLines(4);
+            Tape y = new Tape(4);
             y.dial(0, user, 0);
-            ticks(y, 10);
+            y.ticks(10);
             CHECK.same("nobody is allowed", y.state(0), 0);
         }
     }
@@ -84,12 +60,12 @@ public final class PromisesTest {
         int[] pools = {Integer.MIN_VALUE, -1, 0, 1, 2, 3, 4, 5, 9, Integer.MAX_VALUE};
         int[] sizes = {1, 1, 1, 1, 2, 3, 4, 4, 4, 4};
         for (int i = 0; i < pools.length; i++) {
-            SubscriberLines x = new SubscriberLines(pools[i]);
+            Tape x = new Tape(pools[i]);
             x.allow(0, 5);
             for (int s = 0; s < 4; s++) {
                 x.dial(s, 0, 5);
             }
-            ticks(x, 20);
+            x.ticks(20);
             int on = 0;
             for (int s = 0; s < 4; s++) {
                 on += x.state(s) == 3 ? 1 : 0;
@@ -103,7 +79,7 @@ public final class PromisesTest {
 
     private static void allow() {
         CHECK.begin("2 allow");
-        SubscriberLines x = new SubscriberLines(2);
+        Tape x = new Tape(2);
         int[] none = {-1, 4, Integer.MIN_VALUE, Integer.MAX_VALUE};
         for (int user : none) {
             CHECK.no("allow(" + user + ")", x.allow(user, 1));
@@ -123,12 +99,12 @@ public final class PromisesTest {
         CHECK.same("no such user", stateAfterLogin(x, -1, 0), 0);
     }
 
-    private static int stateAfterLogin(SubscriberLines x, int user, int secret) {
+    private static int stateAfterLogin(Tape x, int user, int secret) {
         x.dial(0, user, secret);
-        ticks(x, 14);
+        x.ticks(14);
         int state = x.state(0);
         x.hangup(0);
-        ticks(x, 6);
+        x.ticks(6);
         return state;
     }
 
@@ -136,7 +112,7 @@ public final class PromisesTest {
 
     private static void dial() {
         CHECK.begin("3 dial");
-        SubscriberLines x = new SubscriberLines(2);
+        Tape x = new Tape(2);
         for (int s : NO_SUBSCRIBERS) {
             CHECK.no("dial(" + s + ")", x.dial(s, 0, 0));
         }
@@ -148,13 +124,13 @@ public final class PromisesTest {
         }
         CHECK.same("flight()", x.flight(), 4);
         for (int k = 0; k < 4; k++) {
-            packetIs(x, k, 1, 3 - k, 4);
+            CHECK.packet(x, k, 1, 3 - k, 4);
         }
-        ticks(x, 2);
+        x.ticks(2);
         CHECK.same("in LOGIN", x.state(0), 2);
         CHECK.no("dial in LOGIN", x.dial(0, 1, 1));
-        packetIs(x, 0, 4, 3, 4, 1, Integer.MAX_VALUE, -9);
-        SubscriberLines y = online(1);
+        CHECK.packet(x, 0, 4, 3, 4, 1, Integer.MAX_VALUE, -9);
+        Tape y = Tape.online(1);
         CHECK.no("dial when ON", y.dial(0, 1, 77));
         CHECK.same("still ON", y.state(0), 3);
         y.hangup(0);
@@ -165,7 +141,7 @@ public final class PromisesTest {
 
     private static void hangup() {
         CHECK.begin("4 hangup");
-        SubscriberLines x = new SubscriberLines(2);
+        Tape x = new Tape(2);
         for (int s : NO_SUBSCRIBERS) {
             CHECK.no("hangup(" + s + ")", x.hangup(s));
         }
@@ -176,20 +152,20 @@ public final class PromisesTest {
         CHECK.same("JOIN alone is in flight", x.flight(), 1);
         CHECK.no("hangup twice", x.hangup(0));
 
-        x = new SubscriberLines(2);
+        x = new Tape(2);
         x.dial(3, 1, 77);
-        ticks(x, 2);
+        x.ticks(2);
         int before = x.flight();
         CHECK.yes("hangup in LOGIN", x.hangup(3));
         CHECK.same("state", x.state(3), 0);
-        packetIs(x, before, 3, 3, 4, 1);
+        CHECK.packet(x, before, 3, 3, 4, 1);
 
-        x = online(2);
+        x = Tape.online(2);
         before = x.flight();
         CHECK.yes("hangup when ON", x.hangup(0));
         CHECK.same("state", x.state(0), 0);
         CHECK.same("address", x.address(0), 0);
-        packetIs(x, before, 3, 0, 4, 1);
+        CHECK.packet(x, before, 3, 0, 4, 1);
         CHECK.same("one packet", x.flight(), before + 1);
     }
 
@@ -197,14 +173,14 @@ public final class PromisesTest {
 
     private static void send() {
         CHECK.begin("5 send");
-        SubscriberLines x = new SubscriberLines(2);
+        Tape x = new Tape(2);
         x.allow(1, 77);
         CHECK.no("send when OFF", x.send(0, 1, 1));
         x.dial(0, 1, 77);
         CHECK.no("send when JOINING", x.send(0, 1, 1));
-        ticks(x, 2);
+        x.ticks(2);
         CHECK.no("send in LOGIN", x.send(0, 1, 1));
-        ticks(x, 8);
+        x.ticks(8);
         int before = x.flight();
         for (int s : NO_SUBSCRIBERS) {
             CHECK.no("send(" + s + ")", x.send(s, 1, 1));
@@ -213,9 +189,9 @@ public final class PromisesTest {
         CHECK.same("nothing was sent", x.flight(), before);
         CHECK.yes("send with its address", x.send(0, 1, -5));
         CHECK.yes("send with another source", x.send(0, Integer.MIN_VALUE, Integer.MAX_VALUE));
-        packetIs(x, before, 10, 0, 4, 1, 1, -5);
-        packetIs(x, before + 1, 10, 0, 4, 1, Integer.MIN_VALUE, Integer.MAX_VALUE);
-        ticks(x, 2);
+        CHECK.packet(x, before, 10, 0, 4, 1, 1, -5);
+        CHECK.packet(x, before + 1, 10, 0, 4, 1, Integer.MIN_VALUE, Integer.MAX_VALUE);
+        x.ticks(2);
         CHECK.same("the core got one", x.cored(-1), 1);
         CHECK.same("its word", x.cored(0), -5);
         CHECK.same("one was rejected", x.cored(-2), 1);
@@ -225,17 +201,17 @@ public final class PromisesTest {
 
     private static void core() {
         CHECK.begin("6 core");
-        SubscriberLines x = new SubscriberLines(2);
+        Tape x = new Tape(2);
         x.allow(1, 77);
         CHECK.no("core without a session", x.core(1, 1));
         x.dial(0, 1, 77);
-        ticks(x, 4);
+        x.ticks(4);
         CHECK.same("WAITING", x.session(0, 2), 1);
         CHECK.no("core to a WAITING session", x.core(0, 1));
-        ticks(x, 2);
+        x.ticks(2);
         CHECK.same("ACCEPTED", x.session(0, 2), 2);
         CHECK.no("core to an ACCEPTED session", x.core(1, 1));
-        ticks(x, 4);
+        x.ticks(4);
         CHECK.same("OPEN", x.session(0, 2), 3);
         int before = x.flight();
         int[] others = {0, -1, 2, 3, 5, Integer.MIN_VALUE, Integer.MAX_VALUE};
@@ -244,8 +220,8 @@ public final class PromisesTest {
         }
         CHECK.same("nothing was sent", x.flight(), before);
         CHECK.yes("core(1)", x.core(1, -99));
-        packetIs(x, before, 11, 5, 4, 1, 1, -99);
-        ticks(x, 2);
+        CHECK.packet(x, before, 11, 5, 4, 1, 1, -99);
+        x.ticks(2);
         CHECK.same("it got the word", x.heard(0, 0), -99);
     }
 
@@ -253,7 +229,7 @@ public final class PromisesTest {
 
     private static void restart() {
         CHECK.begin("7 restart");
-        SubscriberLines x = online(2);
+        Tape x = Tape.online(2);
         int before = x.flight();
         int[] others = {-1, 0, 3, 6, Integer.MIN_VALUE, Integer.MAX_VALUE};
         for (int node : others) {
@@ -273,18 +249,18 @@ public final class PromisesTest {
         CHECK.same("no channel", x.channel(5, 0), 0);
         CHECK.no("no session for the core", x.core(1, 1));
 
-        x = new SubscriberLines(2);
+        x = new Tape(2);
         x.allow(1, 77);
         x.restart(5);
-        ticks(x, 3);
+        x.ticks(3);
         x.dial(0, 1, 77);
-        ticks(x, 10);
+        x.ticks(10);
         CHECK.same("the users stay allowed", x.state(0), 3);
         silence();
     }
 
     private static void silence() {
-        SubscriberLines x = new SubscriberLines(2);
+        Tape x = new Tape(2);
         x.restart(4);
         x.dial(0, 1, 77);
         CHECK.same("first silent tick", x.tick(), 0);
@@ -295,9 +271,9 @@ public final class PromisesTest {
         x.dial(3, 1, 77);
         CHECK.same("it hears again", x.tick(), 2);
 
-        x = new SubscriberLines(2);
+        x = new Tape(2);
         x.restart(4);
-        ticks(x, 2);
+        x.ticks(2);
         CHECK.yes("restart when silent", x.restart(4));
         for (int i = 0; i < 3; i++) {
             x.dial(i, 1, 77);
@@ -311,7 +287,7 @@ public final class PromisesTest {
 
     private static void tick() {
         CHECK.begin("8 tick");
-        SubscriberLines x = new SubscriberLines(2);
+        Tape x = new Tape(2);
         x.allow(1, 77);
         CHECK.same("nothing arrives", x.tick(), 0);
         x.dial(0, 1, 77);
@@ -333,7 +309,7 @@ public final class PromisesTest {
 
     private static void drop() {
         CHECK.begin("9 drop");
-        SubscriberLines x = new SubscriberLines(2);
+        Tape x = new Tape(2);
         CHECK.no("drop(0) of none", x.drop(0));
         for (int s = 0; s < 4; s++) {
             x.dial(s, 0, 0);
@@ -345,12 +321,12 @@ public final class PromisesTest {
         CHECK.same("flight()", x.flight(), 4);
         CHECK.yes("drop(1)", x.drop(1));
         CHECK.same("flight()", x.flight(), 3);
-        packetIs(x, 0, 1, 0, 4);
-        packetIs(x, 1, 1, 2, 4);
-        packetIs(x, 2, 1, 3, 4);
+        CHECK.packet(x, 0, 1, 0, 4);
+        CHECK.packet(x, 1, 1, 2, 4);
+        CHECK.packet(x, 2, 1, 3, 4);
         CHECK.yes("drop the last", x.drop(2));
         CHECK.yes("drop the first", x.drop(0));
-        packetIs(x, 0, 1, 2, 4);
+        CHECK.packet(x, 0, 1, 2, 4);
         CHECK.same("the last one arrives", x.tick(), 1);
         CHECK.same("of subscriber 2", x.circuit(2, 0), 1);
         CHECK.same("not of subscriber 1", x.circuit(1, 0), 0);
@@ -360,7 +336,7 @@ public final class PromisesTest {
 
     private static void swap() {
         CHECK.begin("10 swap");
-        SubscriberLines x = new SubscriberLines(2);
+        Tape x = new Tape(2);
         CHECK.no("swap(0) of none", x.swap(0));
         x.dial(0, 0, 0);
         CHECK.no("swap(0) of one", x.swap(0));
@@ -372,9 +348,9 @@ public final class PromisesTest {
         }
         CHECK.yes("swap(0)", x.swap(0));
         CHECK.yes("swap(1)", x.swap(1));
-        packetIs(x, 0, 1, 1, 4);
-        packetIs(x, 1, 1, 2, 4);
-        packetIs(x, 2, 1, 0, 4);
+        CHECK.packet(x, 0, 1, 1, 4);
+        CHECK.packet(x, 1, 1, 2, 4);
+        CHECK.packet(x, 2, 1, 0, 4);
         CHECK.same("flight()", x.flight(), 3);
         x.tick();
         CHECK.same("first link", x.circuit(1, 0), 1);
@@ -386,7 +362,7 @@ public final class PromisesTest {
 
     private static void flight() {
         CHECK.begin("11 flight");
-        SubscriberLines x = online(2);
+        Tape x = Tape.online(2);
         int before = x.flight();
         for (int i = before + 1; i <= 40; i++) {
             CHECK.yes("send", x.send(0, 1, i));
@@ -395,10 +371,10 @@ public final class PromisesTest {
         CHECK.yes("a further one is sent", x.send(0, 1, 1000));
         CHECK.yes("a further one of the core", x.core(1, 1000));
         CHECK.same("but lost", x.flight(), 40);
-        packetIs(x, 39, 10, 0, 4, 1, 1, 40);
+        CHECK.packet(x, 39, 10, 0, 4, 1, 1, 40);
         CHECK.yes("a place becomes free", x.drop(0));
         CHECK.yes("and is taken", x.send(0, 1, 2000));
-        packetIs(x, 39, 10, 0, 4, 1, 1, 2000);
+        CHECK.packet(x, 39, 10, 0, 4, 1, 1, 2000);
         CHECK.same("all arrive", x.tick(), 40);
         x.tick();
         CHECK.same("the latest word", x.cored(0), 2000);
@@ -409,7 +385,7 @@ public final class PromisesTest {
 
     private static void packet() {
         CHECK.begin("12 packet");
-        SubscriberLines x = new SubscriberLines(2);
+        Tape x = new Tape(2);
         CHECK.same("of no packet", x.packet(0, 0), 0);
         x.dial(2, 1, 77);
         x.tick();
@@ -425,28 +401,21 @@ public final class PromisesTest {
         }
     }
 
-    private static void flightIs(SubscriberLines x, int[]... packets) {
-        CHECK.same("flight()", x.flight(), packets.length);
-        for (int k = 0; k < packets.length; k++) {
-            packetIs(x, k, packets[k]);
-        }
-    }
-
     private static int[] of(int... fields) {
         return fields;
     }
 
     private static void packetOfEachKind() {
         CHECK.begin("12 packet of each kind");
-        SubscriberLines x = secondLinkFirstSession();
+        Tape x = secondLinkFirstSession();
         packetsUntilOpen(x);
         packetsOfWords(x);
         packetsOfRefusal();
     }
 
     /** The link of subscriber 2 will be 2, its session 1, its channel 2: no number stands for another. */
-    private static SubscriberLines secondLinkFirstSession() {
-        SubscriberLines x = new SubscriberLines(1);
+    private static Tape secondLinkFirstSession() {
+        Tape x = new Tape(1);
         x.allow(1, 77);
         x.dial(2, 1, 77);
         x.tick();
@@ -455,12 +424,12 @@ public final class PromisesTest {
         }
         x.restart(4);
         x.hangup(2);
-        ticks(x, 3);
+        x.ticks(3);
         x.dial(2, 1, 77);
         return x;
     }
 
-    private static void packetsUntilOpen(SubscriberLines x) {
+    private static void packetsUntilOpen(Tape x) {
         int[] open = of(12, 4, 5, 0, 0, 0, 2, 0, 0);
         int[] grant = of(14, 5, 4, 2, 1, 0, 2, 0, 2);
         int[] ackUp = of(17, 4, 5, 0, 0, 0, 2, 0, 1);
@@ -470,74 +439,74 @@ public final class PromisesTest {
         int[] accept = of(5, 5, 4, 2, 1);
         int[] acceptOn = of(5, 4, 2, 2, 1);
         int[] ready = of(7, 2, 4, 2);
-        flightIs(x, of(1, 2, 4));
+        CHECK.flight(x, of(1, 2, 4));
         x.tick();
-        flightIs(x, of(2, 4, 2, 2), open, of(13, 4, 5, 2, 0, 0, 2, 1, 0));
+        CHECK.flight(x, of(2, 4, 2, 2), open, of(13, 4, 5, 2, 0, 0, 2, 1, 0));
         x.tick();
-        flightIs(x, login, of(17, 5, 4, 0, 0, 0, 2, 0, 1), grant, ackDown, open);
+        CHECK.flight(x, login, of(17, 5, 4, 0, 0, 0, 2, 0, 1), grant, ackDown, open);
         x.tick();
-        flightIs(x, ackUp, ackDown, grant);
+        CHECK.flight(x, ackUp, ackDown, grant);
         x.tick();
-        flightIs(x, ackUp, login);
+        CHECK.flight(x, ackUp, login);
         x.tick();
-        flightIs(x, loginOn);
+        CHECK.flight(x, loginOn);
         x.tick();
-        flightIs(x, accept);
+        CHECK.flight(x, accept);
         x.tick();
-        flightIs(x, acceptOn, login);
+        CHECK.flight(x, acceptOn, login);
         x.tick();
-        flightIs(x, ready, loginOn, accept);
+        CHECK.flight(x, ready, loginOn, accept);
         x.tick();
-        flightIs(x, of(7, 4, 5, 1), accept, acceptOn);
+        CHECK.flight(x, of(7, 4, 5, 1), accept, acceptOn);
         x.tick();
-        flightIs(x, acceptOn, ready);
+        CHECK.flight(x, acceptOn, ready);
     }
 
-    private static void packetsOfWords(SubscriberLines x) {
+    private static void packetsOfWords(Tape x) {
         x.send(2, 1, 50);
-        packetIs(x, 2, 10, 2, 4, 2, 1, 50);
+        CHECK.packet(x, 2, 10, 2, 4, 2, 1, 50);
         x.tick();
-        flightIs(x, of(7, 2, 4, 2), of(7, 4, 5, 1), of(10, 4, 5, 1, 1, 50));
+        CHECK.flight(x, of(7, 2, 4, 2), of(7, 4, 5, 1), of(10, 4, 5, 1, 1, 50));
         x.tick();
-        flightIs(x, of(7, 4, 5, 1), of(16, 4, 5, 0, 0, 0, 2, 2, 1));
+        CHECK.flight(x, of(7, 4, 5, 1), of(16, 4, 5, 0, 0, 0, 2, 2, 1));
         x.core(1, 60);
-        packetIs(x, 2, 11, 5, 4, 2, 1, 60);
+        CHECK.packet(x, 2, 11, 5, 4, 2, 1, 60);
         x.tick();
-        flightIs(x, of(17, 5, 4, 0, 0, 0, 2, 0, 3), of(11, 4, 2, 2, 1, 60));
-        ticks(x, 2);
-        flightIs(x);
+        CHECK.flight(x, of(17, 5, 4, 0, 0, 0, 2, 0, 3), of(11, 4, 2, 2, 1, 60));
+        x.ticks(2);
+        CHECK.flight(x);
         x.tick();
-        flightIs(x, of(8, 5, 4, 2));
+        CHECK.flight(x, of(8, 5, 4, 2));
         x.tick();
-        flightIs(x, of(8, 4, 2, 2));
+        CHECK.flight(x, of(8, 4, 2, 2));
         x.tick();
-        flightIs(x, of(9, 2, 4, 2));
+        CHECK.flight(x, of(9, 2, 4, 2));
         x.tick();
-        flightIs(x, of(9, 4, 5, 1));
+        CHECK.flight(x, of(9, 4, 5, 1));
         x.tick();
         x.hangup(2);
-        flightIs(x, of(3, 2, 4, 2));
+        CHECK.flight(x, of(3, 2, 4, 2));
         x.tick();
-        flightIs(x, of(15, 4, 5, 1, 0, 0, 2, 3, 1));
+        CHECK.flight(x, of(15, 4, 5, 1, 0, 0, 2, 3, 1));
     }
 
     private static void packetsOfRefusal() {
-        SubscriberLines x = new SubscriberLines(1);
+        Tape x = new Tape(1);
         x.allow(1, 77);
         x.dial(0, 1, 76);
-        ticks(x, 6);
+        x.ticks(6);
         int[] message = of(15, 5, 4, 1, 0, 0, 1, 1, 2);
-        flightIs(x, of(6, 5, 4, 1), message);
+        CHECK.flight(x, of(6, 5, 4, 1), message);
         x.tick();
         int[] login = of(4, 0, 4, 1, 1, 76);
-        flightIs(x, of(6, 4, 0, 1), of(3, 4, 0, 1), of(17, 4, 5, 0, 0, 0, 1, 0, 2), login, message);
+        CHECK.flight(x, of(6, 4, 0, 1), of(3, 4, 0, 1), of(17, 4, 5, 0, 0, 0, 1, 0, 2), login, message);
     }
 
     // ---- promise 13
 
     private static void state() {
         CHECK.begin("13 state");
-        SubscriberLines x = new SubscriberLines(2);
+        Tape x = new Tape(2);
         for (int s : NO_SUBSCRIBERS) {
             CHECK.same("state(" + s + ")", x.state(s), -1);
         }
@@ -549,7 +518,7 @@ public final class PromisesTest {
         CHECK.same("JOINING still", x.state(0), 1);
         x.tick();
         CHECK.same("LOGIN", x.state(0), 2);
-        ticks(x, 5);
+        x.ticks(5);
         CHECK.same("LOGIN still", x.state(0), 2);
         x.tick();
         CHECK.same("ON", x.state(0), 3);
@@ -562,7 +531,7 @@ public final class PromisesTest {
 
     private static void address() {
         CHECK.begin("14 address");
-        SubscriberLines x = new SubscriberLines(2);
+        Tape x = new Tape(2);
         x.allow(1, 77);
         for (int s : NO_SUBSCRIBERS) {
             CHECK.same("address(" + s + ")", x.address(s), 0);
@@ -575,13 +544,13 @@ public final class PromisesTest {
         x.tick();
         CHECK.same("ON", x.address(3), 1);
         x.dial(0, 1, 77);
-        ticks(x, 12);
+        x.ticks(12);
         CHECK.same("the next one", x.address(0), 2);
         x.hangup(3);
         CHECK.same("OFF", x.address(3), 0);
-        ticks(x, 4);
+        x.ticks(4);
         x.dial(1, 1, 77);
-        ticks(x, 12);
+        x.ticks(12);
         CHECK.same("the lowest free one", x.address(1), 1);
     }
 
@@ -589,7 +558,7 @@ public final class PromisesTest {
 
     private static void heard() {
         CHECK.begin("15 heard");
-        SubscriberLines x = online(2);
+        Tape x = Tape.online(2);
         CHECK.same("none yet", x.heard(0, -1), 0);
         CHECK.same("none yet", x.heard(0, 0), 0);
         for (int w = 1; w <= 6; w++) {
@@ -623,13 +592,13 @@ public final class PromisesTest {
 
     private static void coredAndSource() {
         CHECK.begin("16 cored, 17 source");
-        SubscriberLines x = twoOnline();
+        Tape x = twoOnline();
         for (int w = 1; w <= 5; w++) {
             x.send(0, 1, 10 * w);
             x.send(1, 2, 10 * w + 1);
             x.send(1, 1, 999);
         }
-        ticks(x, 2);
+        x.ticks(2);
         CHECK.same("how many", x.cored(-1), 10);
         CHECK.same("rejected", x.cored(-2), 5);
         for (int k = 0; k < 8; k++) {
@@ -650,18 +619,18 @@ public final class PromisesTest {
         CHECK.same("over the whole life", x.cored(0), 51);
         CHECK.same("over the whole life", x.source(0), 2);
 
-        SubscriberLines y = online(2);
+        Tape y = Tape.online(2);
         y.send(0, 1, 5);
-        ticks(y, 2);
+        y.ticks(2);
         CHECK.same("one word", y.cored(0), 5);
         CHECK.same("not so many", y.cored(1), 0);
         CHECK.same("not so many", y.source(1), 0);
     }
 
-    private static SubscriberLines twoOnline() {
-        SubscriberLines x = online(2);
+    private static Tape twoOnline() {
+        Tape x = Tape.online(2);
         x.dial(1, 1, 77);
-        ticks(x, 12);
+        x.ticks(12);
         CHECK.same("address of 0", x.address(0), 1);
         CHECK.same("address of 1", x.address(1), 2);
         return x;
@@ -671,7 +640,7 @@ public final class PromisesTest {
 
     private static void circuit() {
         CHECK.begin("18 circuit");
-        SubscriberLines x = new SubscriberLines(2);
+        Tape x = new Tape(2);
         x.dial(1, 0, 0);
         x.dial(0, 0, 0);
         CHECK.same("none yet", x.circuit(1, 0), 0);
@@ -679,7 +648,7 @@ public final class PromisesTest {
         CHECK.same("link of 1", x.circuit(1, 0), 1);
         CHECK.same("link of 0", x.circuit(0, 0), 2);
         CHECK.same("no session yet", x.circuit(1, 1), 0);
-        ticks(x, 2);
+        x.ticks(2);
         CHECK.same("session of 1", x.circuit(1, 1), 1);
         CHECK.same("session of 0", x.circuit(0, 1), 2);
         int[] noWhich = {-1, 2, Integer.MIN_VALUE, Integer.MAX_VALUE};
@@ -702,64 +671,58 @@ public final class PromisesTest {
 
     private static void session() {
         CHECK.begin("19 session");
-        SubscriberLines x = new SubscriberLines(2);
+        Tape x = new Tape(2);
         x.allow(1, 77);
         x.dial(3, 1, 77);
         x.dial(0, 1, 77);
         x.tick();
         CHECK.same("none yet", x.session(0, 0), 0);
-        ticks(x, 2);
-        sessionIs(x, 0, 1, 1, 1, 0, 2);
-        sessionIs(x, 1, 2, 2, 1, 0, 2);
-        sessionIs(x, 2, 0, 0, 0, 0, 0);
-        ticks(x, 3);
+        x.ticks(2);
+        CHECK.session(x, 0, 1, 1, 1, 0, 2);
+        CHECK.session(x, 1, 2, 2, 1, 0, 2);
+        CHECK.session(x, 2, 0, 0, 0, 0, 0);
+        x.ticks(3);
         // The timer of subscriber 0 sends LOGIN again before that of subscriber 3.
-        sessionIs(x, 0, 1, 1, 2, 2, 1);
-        sessionIs(x, 1, 2, 2, 2, 1, 1);
-        ticks(x, 4);
+        CHECK.session(x, 0, 1, 1, 2, 2, 1);
+        CHECK.session(x, 1, 2, 2, 2, 1, 1);
+        x.ticks(4);
         CHECK.same("OPEN", x.session(0, 2), 3);
         CHECK.same("OPEN", x.session(1, 2), 3);
         CHECK.same("address", x.session(1, 3), 1);
         int[] none = {-1, 2, 3, 4, Integer.MIN_VALUE, Integer.MAX_VALUE};
         for (int k : none) {
-            sessionIs(x, k, 0, 0, 0, 0, 0);
+            CHECK.session(x, k, 0, 0, 0, 0, 0);
         }
         int[] noWhich = {-1, 5, Integer.MIN_VALUE, Integer.MAX_VALUE};
         for (int which : noWhich) {
             CHECK.same("which " + which, x.session(0, which), 0);
         }
         x.hangup(3);
-        ticks(x, 2);
+        x.ticks(2);
         CHECK.same("the other one is first", x.session(0, 0), 2);
         CHECK.same("and the only one", x.session(1, 0), 0);
-    }
-
-    private static void sessionIs(SubscriberLines x, int k, int... fields) {
-        for (int which = 0; which < fields.length; which++) {
-            CHECK.same("session(" + k + ", " + which + ")", x.session(k, which), fields[which]);
-        }
     }
 
     // ---- promise 20
 
     private static void channel() {
         CHECK.begin("20 channel");
-        SubscriberLines x = new SubscriberLines(2);
-        channelIs(x, 4, 0, 0, 0, 0, 0);
-        channelIs(x, 5, 0, 0, 0, 0, 0);
+        Tape x = new Tape(2);
+        CHECK.channel(x, 4, 0, 0, 0, 0, 0);
+        CHECK.channel(x, 5, 0, 0, 0, 0, 0);
         x.dial(0, 1, 77);
         x.dial(1, 1, 77);
         x.tick();
-        channelIs(x, 4, 1, 3, 0, 0, 1);
-        channelIs(x, 5, 0, 0, 0, 0, 0);
+        CHECK.channel(x, 4, 1, 3, 0, 0, 1);
+        CHECK.channel(x, 5, 0, 0, 0, 0, 0);
         x.tick();
-        channelIs(x, 4, 1, 3, 0, 1, 4);
-        channelIs(x, 5, 1, 2, 3, 0, 1);
+        CHECK.channel(x, 4, 1, 3, 0, 1, 4);
+        CHECK.channel(x, 5, 1, 2, 3, 0, 1);
         x.tick();
-        channelIs(x, 4, 1, 0, 2, 0, 0);
-        channelIs(x, 5, 1, 2, 3, 1, 4);
+        CHECK.channel(x, 4, 1, 0, 2, 0, 0);
+        CHECK.channel(x, 5, 1, 2, 3, 1, 4);
         x.tick();
-        channelIs(x, 5, 1, 0, 3, 0, 0);
+        CHECK.channel(x, 5, 1, 0, 3, 0, 0);
         int[] noWhich = {-1, 5, Integer.MIN_VALUE, Integer.MAX_VALUE};
         for (int which : noWhich) {
             CHECK.same("which " + which, x.channel(4, which), 0);
@@ -767,16 +730,10 @@ public final class PromisesTest {
         }
         int[] noNode = {-1, 0, 3, 6, Integer.MIN_VALUE, Integer.MAX_VALUE};
         for (int node : noNode) {
-            channelIs(x, node, 0, 0, 0, 0, 0);
+            CHECK.channel(x, node, 0, 0, 0, 0, 0);
         }
         x.restart(4);
-        channelIs(x, 4, 0, 0, 0, 0, 0);
+        CHECK.channel(x, 4, 0, 0, 0, 0, 0);
         CHECK.same("the other end stays", x.channel(5, 2), 3);
-    }
-
-    private static void channelIs(SubscriberLines x, int node, int... fields) {
-        for (int which = 0; which < fields.length; which++) {
-            CHECK.same("channel(" + node + ", " + which + ")", x.channel(node, which), fields[which]);
-        }
     }
 }
