@@ -42,6 +42,7 @@ public final class ChannelBoundsTest {
         allThreeAreAcknowledgedAtOnce();
         onlyLowerNumbersAreAcknowledged();
         nothingAcknowledgedChangesNothing();
+        everyMessageAcknowledges();
         messageWithHigherNumber();
         messageWithLowerNumber();
         ackIsNotAnswered();
@@ -708,6 +709,42 @@ public final class ChannelBoundsTest {
         x.tick();
         // GRANT and ACK, which expect the next number, acknowledge the first.
         CHECK.channel(x, 4, 1, 1, 2, 0, 1);
+    }
+
+    /** Two GRANTs of the server are on their way, the only packets; OPEN and two ASKs wait at the access node. */
+    private static Tape twoGrants() {
+        Tape x = new Tape(4);
+        x.dial(0, 1, 77);
+        x.dial(1, 1, 77);
+        x.ticks(2);
+        x.loseTo(5);
+        x.loseKind(4);
+        x.loseKind(17);
+        CHECK.flight(x, of(14, 5, 4, 1, 1, 0, 1, 0, 2), of(14, 5, 4, 2, 2, 0, 1, 1, 3));
+        CHECK.same("messages", x.channel(4, 1), 3);
+        return x;
+    }
+
+    private static void everyMessageAcknowledges() {
+        CHECK.begin("first the messages are acknowledged, whatever the packet's own number");
+        Tape x = twoGrants();
+        x.drop(1);
+        x.tick();
+        CHECK.same("the expected number", x.channel(4, 2), 1);
+        CHECK.same("OPEN and one ASK are acknowledged", x.channel(4, 1), 1);
+        x.loseTo(5);
+        x.loseKind(4);
+        CHECK.flight(x, of(14, 5, 4, 1, 1, 0, 1, 0, 3));
+        x.tick();
+        CHECK.same("a lower number", x.channel(4, 2), 1);
+        CHECK.same("the other ASK is acknowledged", x.channel(4, 1), 0);
+        Tape y = twoGrants();
+        y.drop(0);
+        y.tick();
+        CHECK.same("a higher number", y.channel(4, 2), 0);
+        CHECK.same("all are acknowledged", y.channel(4, 1), 0);
+        CHECK.same("no session", y.circuit(1, 1), 0);
+        CHECK.packet(y, 0, 17, 4, 5, 0, 0, 0, 1, 0, 0);
     }
 
     private static void messageWithHigherNumber() {

@@ -14,6 +14,7 @@ public final class PromiseBoundsTest {
         newObjectShowsNothing();
         noUserIsAllowedAtFirst();
         userBounds();
+        allowedFromNowOn();
         newSecretInPlaceOfTheOlder();
         dialWithAnyUserAndSecret();
         dialOfNoSubscriber();
@@ -136,6 +137,7 @@ public final class PromiseBoundsTest {
             CHECK.no("logs in with " + user, logsIn(x, user, 5));
             for (int other = 0; other < 4; other++) {
                 CHECK.no("logs in with " + other, logsIn(x, other, 5));
+                CHECK.no("logs in with " + other, logsIn(x, other, 0));
             }
         }
         for (int user = 0; user < 4; user++) {
@@ -145,6 +147,23 @@ public final class PromiseBoundsTest {
                 CHECK.same("logs in with " + other, logsIn(x, other, 5) ? 1 : 0, user == other ? 1 : 0);
             }
         }
+    }
+
+    private static void allowedFromNowOn() {
+        CHECK.begin("2: allowed from now on");
+        for (int ticks = 4; ticks <= 6; ticks++) {
+            Tape x = new Tape(4);
+            x.dial(0, 1, 77);
+            x.ticks(ticks);
+            CHECK.yes("allow", x.allow(1, 77));
+            x.ticks(12 - ticks);
+            // LOGIN reaches the server in the sixth tick.
+            CHECK.same("state when allowed after " + ticks, x.state(0), ticks < 6 ? 3 : 0);
+        }
+        Tape y = Tape.allOnline(4, 1);
+        y.allow(1, 78);
+        y.ticks(20);
+        CHECK.same("ON with the older secret stays ON", y.state(0), 3);
     }
 
     private static void newSecretInPlaceOfTheOlder() {
@@ -294,7 +313,9 @@ public final class PromiseBoundsTest {
         }
         CHECK.same("flight()", x.flight(), 0);
         for (int address = 1; address <= 3; address++) {
+            int quiet = x.session(address - 1, 4);
             CHECK.yes("core(" + address + ")", x.core(address, MIN + address));
+            CHECK.same("QUIET of the session stays", x.session(address - 1, 4), quiet);
             CHECK.packet(x, address - 1, 11, 5, 4, address, address, MIN + address);
         }
         x.ticks(2);

@@ -34,6 +34,7 @@ public final class TermBoundsTest {
         oldLinkWhenOff();
         joinAtTheThirdRun();
         joinFourTimes();
+        countOfJoinsBeginsAnew();
         loginAtTheThirdRun();
         loginFourTimesInThisState();
         refuseInLogin();
@@ -50,6 +51,7 @@ public final class TermBoundsTest {
         leaveWithSession();
         leaveWithOtherLink();
         loginWithoutSession();
+        loginWithOtherLink();
         downWithoutCircuit();
         grantWithoutCircuit();
         dropWithoutCircuit();
@@ -593,11 +595,41 @@ public final class TermBoundsTest {
         CHECK.same("neither JOIN nor LEAVE", x.flight(), 0);
         x.lonelyTicks(3);
         CHECK.same("nothing more", x.flight(), 0);
-        // The count begins anew with the next dial.
+        joinsFourTimes(x);
+    }
+
+    private static void countOfJoinsBeginsAnew() {
+        CHECK.begin("when JOIN was sent 4 times (in this state)");
+        for (int before = 0; before <= 3; before++) {
+            Tape x = Tape.dialled(1);
+            x.lonelyTicks(3 * before);
+            x.hangup(0);
+            joinsFourTimes(x);
+        }
+        // Nor do the LOGINs of an earlier time count.
+        Tape y = Tape.dialled(1);
+        y.ticks(2);
+        y.lonelyTicks(6);
+        CHECK.same("in LOGIN", y.state(0), 2);
+        y.hangup(0);
+        y.restart(4);
+        joinsFourTimes(y);
+    }
+
+    /** It is OFF, and when it dials now it sends JOIN after 0, 3, 6, 9 ticks and is OFF after 12. */
+    private static void joinsFourTimes(Tape x) {
+        x.loseAll();
         x.dial(0, 1, 77);
-        x.lonelyTicks(9);
-        CHECK.kinds(x, 1);
-        CHECK.same("JOINING", x.state(0), 1);
+        CHECK.same("JOINs", x.count(1), 1);
+        for (int t = 1; t <= 11; t++) {
+            x.lonelyTicks(1);
+            CHECK.same("JOINs after " + t, x.count(1), t % 3 == 0 ? 1 : 0);
+            CHECK.same("state after " + t, x.state(0), 1);
+        }
+        x.lonelyTicks(1);
+        CHECK.same("OFF", x.state(0), 0);
+        CHECK.same("no fifth JOIN", x.count(1), 0);
+        CHECK.same("no LEAVE", x.count(3), 0);
     }
 
     private static void loginAtTheThirdRun() {
@@ -869,6 +901,25 @@ public final class TermBoundsTest {
         y.bringForward(14);
         y.tick();
         CHECK.packet(y, y.find(4), 4, 4, 5, 1, 1, 77);
+    }
+
+    private static void loginWithOtherLink() {
+        CHECK.begin("sent on with its circuit's link");
+        Tape x = new Tape(1);
+        x.allow(1, 77);
+        x.fillUpTo(1, 0);
+        x.dial(0, 1, 77);
+        int withSession = 0;
+        for (int t = 0; t < 13; t++) {
+            x.tick();
+            for (int k = x.flight() - 1; k >= 0; k--) {
+                CHECK.no("LOGIN to the server", x.packet(k, 0) == 4 && x.packet(k, 2) == 5);
+            }
+            withSession += x.circuit(0, 0) == 2 && x.circuit(0, 1) == 2 ? 1 : 0;
+        }
+        // It took the first link and the circuit has the second, so it logs in in vain.
+        CHECK.yes("the circuit had a session", withSession >= 6);
+        CHECK.same("OFF", x.state(0), 0);
     }
 
     private static void downWithoutCircuit() {
